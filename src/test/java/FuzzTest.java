@@ -3,7 +3,7 @@ import java.util.List;
 
 /** Long runs of calls that a fixed sequence of numbers chooses, on NotaryBook and on Model: all answers must agree. */
 public final class FuzzTest {
-    private static final int RUNS = 6000;
+    private static final int RUNS = 4000;
     private static final int CALLS = 500;
 
     private static long seed = 20261119L;
@@ -25,10 +25,25 @@ public final class FuzzTest {
     }
 
     private static int number(int bound) {
-        if (oneIn(40)) {
+        if (oneIn(60)) {
             return new int[] {-1, -2, 99, 100, 240, 241, Integer.MIN_VALUE, Integer.MAX_VALUE}[pick(8)];
         }
         return pick(bound);
+    }
+
+    /** Mostly what a count of the model leaves: one of so many. */
+    private static int oneOf(int what) {
+        int there = outcome(() -> model.count(what)).startsWith("java") ? 0 : model.count(what);
+        return number(oneIn(10) || there == 0 ? 12 : there);
+    }
+
+    private static int actNumber() {
+        return oneIn(30) ? 0 : 1 + oneOf(3);
+    }
+
+    private static int wordNumber(int a) {
+        boolean there = !outcome(() -> model.act(a, 4)).startsWith("java");
+        return number(oneIn(10) || !there ? 12 : model.act(a, 4));
     }
 
     // ---- texts
@@ -52,71 +67,57 @@ public final class FuzzTest {
 
     private static String bodyText() {
         StringBuilder s = new StringBuilder();
-        body(s, 1 + pick(oneIn(4) ? 40 : 9), 0);
+        body(s, 1 + pick(oneIn(4) ? 60 : 9), 0);
         return s.toString();
     }
 
-    private static String line(int[] state) {
-        if (state[0] == 0 && oneIn(2) || oneIn(60)) {
-            state[0] = 1;
-            state[1] = 0;
-            return "act " + (oneIn(80) ? "gift" : new String[] {"sale", "will", "loan"}[pick(3)]) + bodyText();
-        }
-        if (state[0] == 1) {
-            switch (pick(6)) {
-                case 0:
-                    state[1]++;
-                    return "strike " + pick(4);
-                case 1:
-                    state[1]++;
-                    return "insert " + pick(4) + " " + word();
-                case 2:
-                    if (oneIn(3)) {
-                        state[1]++;
-                        return "out " + pick(3);
-                    }
-                    return "shake";
-                case 3:
-                    if (oneIn(3)) {
-                        state[0] = 0;
-                        return "cancel";
-                    }
-                    break;
-                default:
-                    break;
-            }
-            state[0] = 0;
-            return "seal " + (3 + pick(6)) + " " + state[1];
-        }
-        switch (pick(5)) {
+    private static String line() {
+        switch (pick(12)) {
             case 0:
-                return "copy " + (1 + pick(3)) + " " + pick(3);
             case 1:
-                return "lose " + pick(4);
             case 2:
-                return "find " + pick(4);
+                return "act " + (oneIn(80) ? "gift" : new String[] {"sale", "will", "loan"}[pick(3)]) + bodyText();
             case 3:
-                return "sew " + pick(4);
+                return "strike " + pick(5);
+            case 4:
+                return "insert " + pick(oneIn(3) ? 9 : 2) + " " + word();
+            case 5:
+                return "out " + pick(5);
+            case 6:
+            case 7:
+                return "seal " + pick(10) + " " + pick(6);
+            case 8:
+                return oneIn(4) ? "cancel" : "copy " + (1 + pick(3)) + " " + pick(3);
+            case 9:
+                return "lose " + pick(6);
+            case 10:
+                return (oneIn(2) ? "find " : "sew ") + pick(6);
             default:
                 return "shake";
         }
     }
 
+    /** A text whose lines are tried one by one: those that the model refuses are left out, but for a few. */
     private static String bookText() {
         StringBuilder s = new StringBuilder("book ");
-        s.append(4 + pick(oneIn(30) ? 20 : 5)).append(' ').append(pick(oneIn(30) ? 8 : 4)).append(' ');
-        s.append(2 + pick(oneIn(30) ? 5 : 3));
-        int[] state = {0, 0};
-        for (int lines = pick(10); lines > 0; lines--) {
-            s.append(oneIn(9) ? " ; " : ";").append(line(state));
+        s.append(4 + pick(oneIn(30) ? 20 : oneIn(3) ? 17 : 3)).append(' ');
+        s.append(pick(oneIn(30) ? 8 : 4)).append(' ').append(2 + pick(oneIn(30) ? 5 : 3));
+        int tries = pick(60);
+        while (tries > 0 && s.length() < 540) {
+            tries--;
+            int before = s.length();
+            s.append(oneIn(9) ? " ; " : ";").append(line());
+            if ((!Model.accepts(s.toString()) || s.length() > 600) && !oneIn(150)) {
+                s.setLength(before);
+            }
         }
         return s.toString();
     }
 
-    /** Changes some bytes of one text in four. */
+    /** Changes some bytes of one text in nine. */
     private static String bent(String text) {
         StringBuilder s = new StringBuilder(text);
-        if (oneIn(4)) {
+        if (oneIn(9)) {
             for (int k = pick(3); k >= 0 && s.length() > 0; k--) {
                 int at = pick(s.length());
                 char sign = ";() 0123459azbk\t\u00e9A-".charAt(pick(19));
@@ -186,6 +187,7 @@ public final class FuzzTest {
 
     private static void loadText() {
         String text = bent(bookText());
+        compare("load " + 0, () -> book.load(0), () -> model.load(0));
         put(text);
         int n = length(text);
         compare("load " + n, () -> book.load(n), () -> model.load(n));
@@ -194,119 +196,156 @@ public final class FuzzTest {
     }
 
     private static void change() {
-        int a = number(4);
-        int b = number(8);
-        switch (pick(16)) {
+        int open = outcome(() -> model.count(14)).startsWith("java") ? 0 : model.count(14);
+        if (open == 0 && oneIn(3)) {
+            beginAct();
+        } else if (open > 0 && oneIn(2)) {
+            changeOpen(open);
+        } else {
+            changeTheRest();
+        }
+        compare("undoable", () -> book.undoable(), () -> model.undoable());
+        compare("buffered", () -> book.buffered(), () -> model.buffered());
+    }
+
+    private static void beginAct() {
+        String body = bent(bodyText());
+        put(body);
+        int kind = number(3);
+        int n = length(body);
+        compare("begin " + kind + " " + n, () -> book.begin(kind, n), () -> model.begin(kind, n));
+        if (oneIn(2)) {
+            compare("findWord 0", () -> book.findWord(0), () -> model.findWord(0));
+        }
+    }
+
+    private static void changeOpen(int open) {
+        int i = wordNumber(open);
+        switch (pick(6)) {
             case 0:
+                compare("strike " + i, () -> book.strike(i), () -> model.strike(i));
+                break;
             case 1:
-                String body = bent(bodyText());
-                put(body);
-                int n = length(body);
-                compare("begin " + a + " " + n, () -> book.begin(a, n), () -> model.begin(a, n));
+                compare("strikeClause " + i, () -> book.strikeClause(i), () -> model.strikeClause(i));
                 break;
             case 2:
-                compare("strike " + b, () -> book.strike(b), () -> model.strike(b));
-                break;
             case 3:
-                compare("strikeClause " + b, () -> book.strikeClause(b), () -> model.strikeClause(b));
+                String word = bent(word());
+                int place = oneIn(2) ? 0 : i;
+                compare("findWord 0", () -> book.findWord(0), () -> model.findWord(0));
+                put(word);
+                int n = length(word);
+                compare("interline " + place + " " + n, () -> book.interline(place, n), () -> model.interline(place, n));
                 break;
             case 4:
-                String word = bent(word());
-                put(word);
-                int m = length(word);
-                compare("interline " + a + " " + m, () -> book.interline(a, m), () -> model.interline(a, m));
+                int marks = oneIn(5) ? number(9) : model.act(open, 3);
+                int witnesses = number(10);
+                compare("seal " + witnesses + " " + marks, () -> book.seal(witnesses, marks),
+                        () -> model.seal(witnesses, marks));
                 break;
-            case 5:
-            case 6:
-                int open = outcome(() -> model.count(14)).startsWith("java") ? 0 : model.count(14);
-                int marks = open > 0 && !oneIn(4) ? model.act(open, 3) : b;
-                int w = 2 + number(4);
-                compare("seal " + w + " " + marks, () -> book.seal(w, marks), () -> model.seal(w, marks));
-                break;
-            case 7:
+            default:
                 if (oneIn(4)) {
                     compare("cancel", () -> book.cancel(), () -> model.cancel());
                 }
                 break;
-            case 8:
-                compare("addCopy " + b + " " + a, () -> book.addCopy(b, a), () -> model.addCopy(b, a));
+        }
+    }
+
+    private static void changeTheRest() {
+        int a = actNumber();
+        int l = oneOf(5);
+        int grade = number(3);
+        switch (pick(9)) {
+            case 0:
+            case 1:
+                compare("addCopy " + a + " " + grade, () -> book.addCopy(a, grade), () -> model.addCopy(a, grade));
                 break;
-            case 9:
-                if (oneIn(3)) {
-                    compare("burn " + a, () -> book.burn(a), () -> model.burn(a));
+            case 2:
+                if (oneIn(4)) {
+                    int c = oneOf(8);
+                    compare("burn " + c, () -> book.burn(c), () -> model.burn(c));
                 }
                 break;
-            case 10:
-                compare("lose " + b, () -> book.lose(b), () -> model.lose(b));
+            case 3:
+                compare("lose " + l, () -> book.lose(l), () -> model.lose(l));
                 break;
-            case 11:
-                compare("recover " + b, () -> book.recover(b), () -> model.recover(b));
+            case 4:
+                compare("recover " + l, () -> book.recover(l), () -> model.recover(l));
                 break;
-            case 12:
-                compare("sew " + b, () -> book.sew(b), () -> model.sew(b));
+            case 5:
+                compare("sew " + l, () -> book.sew(l), () -> model.sew(l));
                 break;
-            case 13:
-                compare("shake", () -> book.shake(), () -> model.shake());
+            case 6:
+                if (oneIn(4)) {
+                    compare("shake", () -> book.shake(), () -> model.shake());
+                }
                 break;
-            case 14:
-                compare("undo", () -> book.undo(), () -> model.undo());
+            case 7:
+                for (int times = pick(oneIn(4) ? 11 : 2); times >= 0; times--) {
+                    compare("undo", () -> book.undo(), () -> model.undo());
+                }
                 break;
             default:
                 int slot = number(2);
-                if (oneIn(2)) {
+                if (!oneIn(4)) {
                     compare("save " + slot, () -> book.save(slot), () -> model.save(slot));
                 } else {
                     compare("restore " + slot, () -> book.restore(slot), () -> model.restore(slot));
                 }
                 break;
         }
-        compare("undoable", () -> book.undoable(), () -> model.undoable());
-        compare("buffered", () -> book.buffered(), () -> model.buffered());
     }
 
     private static void askOfActs() {
-        int a = number(6);
-        int i = number(9);
-        int what = number(12);
+        int a = actNumber();
+        int other = actNumber();
+        int i = wordNumber(a);
+        int what = number(16);
         int k = number(9);
-        compare("count " + k, () -> book.count(k), () -> model.count(k));
+        int grade = number(3);
+        compare("count " + what, () -> book.count(what), () -> model.count(what));
         compare("count 15", () -> book.count(15), () -> model.count(15));
         compare("act " + a + " " + what, () -> book.act(a, what), () -> model.act(a, what));
         compare("word " + a + " " + i + " " + k, () -> book.word(a, i, k), () -> model.word(a, i, k));
         compare("letter " + a + " " + i + " " + k, () -> book.letter(a, i, k), () -> model.letter(a, i, k));
-        compare("innerLetter " + a + " " + i, () -> book.innerLetter(a, i, what, k),
-                () -> model.innerLetter(a, i, what, k));
-        compare("clause " + a + " " + i + " " + k, () -> book.clause(a, i, k), () -> model.clause(a, i, k));
+        compare("innerLetter " + a + " " + i, () -> book.innerLetter(a, i, what % 5, k),
+                () -> model.innerLetter(a, i, what % 5, k));
+        compare("clause " + a + " " + k + " " + what % 7, () -> book.clause(a, k, what % 7),
+                () -> model.clause(a, k, what % 7));
         compare("known " + a, () -> book.known(a), () -> model.known(a));
         compare("firstUnknown " + a, () -> book.firstUnknown(a), () -> model.firstUnknown(a));
         compare("longest " + a, () -> book.longest(a), () -> model.longest(a));
-        compare("common " + a + " " + k, () -> book.common(a, k), () -> model.common(a, k));
+        compare("common " + a + " " + other, () -> book.common(a, other), () -> model.common(a, other));
         compare("bestCopy " + a, () -> book.bestCopy(a), () -> model.bestCopy(a));
-        compare("whyNotCopy " + a, () -> book.whyNotCopy(a, i % 4), () -> model.whyNotCopy(a, i % 4));
-        compare("copyWords " + a, () -> book.copyWords(a, i % 4), () -> model.copyWords(a, i % 4));
+        compare("whyNotCopy " + a + " " + grade, () -> book.whyNotCopy(a, grade), () -> model.whyNotCopy(a, grade));
+        compare("copyWords " + a + " " + grade, () -> book.copyWords(a, grade), () -> model.copyWords(a, grade));
     }
 
     private static void askOfTheRest() {
-        int l = number(9);
+        int l = oneOf(5);
+        int c = oneOf(8);
         int what = number(7);
-        int i = number(12);
+        int i = number(30);
+        int words = number(oneIn(2) ? 241 : 60);
         boolean isClause = oneIn(2);
         compare("leaf " + l + " " + what, () -> book.leaf(l, what), () -> model.leaf(l, what));
-        compare("copy " + l + " " + what, () -> book.copy(l, what), () -> model.copy(l, what));
-        compare("has " + l + " " + i, () -> book.has(l, i) ? 1 : 0, () -> model.has(l, i));
+        compare("copy " + c + " " + what, () -> book.copy(c, what), () -> model.copy(c, what));
+        compare("copy " + c + " 4", () -> book.copy(c, 4), () -> model.copy(c, 4));
+        compare("has " + c + " " + i, () -> book.has(c, i) ? 1 : 0, () -> model.has(c, i));
         compare("gap", () -> book.gap(), () -> model.gap());
-        compare("whyNotSeal " + i + " " + l, () -> book.whyNotSeal(i, l), () -> model.whyNotSeal(i, l));
+        compare("whyNotSeal " + i + " " + what, () -> book.whyNotSeal(i, what), () -> model.whyNotSeal(i, what));
         compare("whyNotStrike " + i, () -> book.whyNotStrike(i), () -> model.whyNotStrike(i));
         compare("unknownIf " + l, () -> book.unknownIf(l), () -> model.unknownIf(l));
         compare("worstLeaf", () -> book.worstLeaf(), () -> model.worstLeaf());
         compare("shakenOut", () -> book.shakenOut(), () -> model.shakenOut());
-        compare("leavesFor " + i * 9, () -> book.leavesFor(i * 9), () -> model.leavesFor(i * 9));
+        compare("leavesFor " + words, () -> book.leavesFor(words), () -> model.leavesFor(words));
         compare("standingIf " + i + " " + isClause, () -> book.standingIf(i, isClause),
                 () -> model.standingIf(i, isClause));
         compare("knownShare", () -> book.knownShare(), () -> model.knownShare());
         compare("meanWords", () -> book.meanWords(), () -> model.meanWords());
         if (oneIn(4)) {
             String word = bent(word());
+            compare("findWord 0", () -> book.findWord(0), () -> model.findWord(0));
             put(word);
             int n = length(word);
             compare("findWord " + n, () -> book.findWord(n), () -> model.findWord(n));
@@ -314,7 +353,7 @@ public final class FuzzTest {
     }
 
     private static void askTexts() {
-        int k = number(6);
+        int k = oneIn(3) ? actNumber() : oneIn(2) ? oneOf(5) : oneOf(8);
         switch (pick(4)) {
             case 0:
                 compare("writeAct " + k, () -> book.writeAct(k), () -> model.writeAct(k));
@@ -344,7 +383,7 @@ public final class FuzzTest {
         model = new Model();
         told = new ArrayList<>();
         while (told.size() < CALLS && wrong == 0) {
-            if (oneIn(25) || told.isEmpty() && !oneIn(9)) {
+            if (oneIn(60) || told.isEmpty() && !oneIn(9)) {
                 loadText();
             } else if (!oneIn(3)) {
                 change();

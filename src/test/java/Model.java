@@ -615,6 +615,16 @@ final class Model {
         return now.acts.size();
     }
 
+    /** Whether a text is a book, asked of a model of its own. */
+    static boolean accepts(String s) {
+        try {
+            new Model().parse(s);
+            return true;
+        } catch (Refusal r) {
+            return false;
+        }
+    }
+
     int parseError() {
         return error;
     }
