@@ -917,9 +917,11 @@ public final class NotaryBook {
             System.arraycopy(from.words, 0, words, 0, size);
             System.arraycopy(from.opens, 0, opens, 0, size);
             System.arraycopy(from.closes, 0, closes, 0, size);
-            System.arraycopy(from.struck, 0, struck, 0, size);
             System.arraycopy(from.inserted, 0, inserted, 0, size);
             System.arraycopy(from.inserts, 0, inserts, 0, size * MOST_BEHIND);
+            for (int w = 0; w < size; w++) {
+                struck[w] = from.struck[w];
+            }
         }
 
         /** Puts a word at a place behind all written words, where it is none of them as long as size stays. */

@@ -241,6 +241,14 @@ public final class ChangeTest {
         is("CASH as it was", x.count(9), 21);
         is("it is open again", x.count(14), 5);
         state("without a book", () -> new NotaryBook().seal(10, 0));
+        NotaryBook y = Check.loaded("book 4 0 2;act sale (a) b");
+        for (int k = 0; k < 100; k++) {
+            y.strikeClause(0);
+        }
+        is("a hundred marks", y.act(1, 3), 100);
+        is("other marks", y.whyNotSeal(0, 99), 3);
+        argument("they can not be told", () -> y.seal(0, 100));
+        argument("they can not be told", () -> y.whyNotSeal(0, 100));
     }
 
     private static void cancel() {
@@ -517,6 +525,80 @@ public final class ChangeTest {
         state("after load nothing is saved", () -> y.restore(0));
     }
 
+    /** Everything that a slot or a change keeps comes back, and nothing stays of what came after it. */
+    private static void wholeState() {
+        Check.promise = 54;
+        NotaryBook x = twoActs();
+        x.addCopy(1, 2);
+        x.addCopy(1, 0);
+        x.save(0);
+        Check.begin(x, 2, "(a (b) c) d e");
+        x.strike(0);
+        Check.interline(x, 2, "x");
+        Check.interline(x, 2, "y");
+        x.lose(1);
+        x.burn(0);
+        x.save(1);
+        x.restore(0);
+        is("the copies", x.copy(0, 1) * 10 + x.copy(1, 1), 20);
+        Check.begin(x, 0, "f g (h i)");
+        x.seal(3, 0);
+        x.addCopy(3, 1);
+        is("another act in the same place", Check.text(x, x.writeAct(3)), "f g ( h i )");
+        is("its copy", Check.text(x, x.writeCopy(2)), "f g h i");
+        x.restore(1);
+        is("the act", Check.text(x, x.writeAct(3)), "( -a ( b ) c ^x ^y ) d e");
+        is("its kind", x.act(3, 0), 2);
+        is("its witnesses", x.act(3, 2), 0);
+        is("its fee", x.act(3, 10), 0);
+        is("its marks", x.act(3, 3), 3);
+        leavesAre(x, LOOSE, LOST, FAST, FAST, FAST);
+        is("the copy", Check.text(x, x.writeCopy(0)), "the barn is sold");
+        is("the words that it has", x.copy(0, 2), 4);
+        is("the copies", x.count(8), 1);
+        is("CASH", x.count(9), 13);
+        is("what agrees", x.gap(), 0);
+        x.restore(0);
+        is("the copy", Check.text(x, x.writeCopy(0)), "the sold");
+        leavesAre(x, FAST, FAST, FAST);
+    }
+
+    private static void nothingStays() {
+        Check.promise = 51;
+        NotaryBook x = twoActs();
+        Check.begin(x, 2, "((a) (b))");
+        x.strike(0);
+        Check.interline(x, 1, "x");
+        x.strikeClause(1);
+        x.seal(9, 3);
+        for (int k = 0; k < 5; k++) {
+            x.undo();
+        }
+        Check.begin(x, 0, "c d");
+        is("the text", Check.text(x, x.writeAct(3)), "c d");
+        is("MARKS", x.act(3, 3), 0);
+        is("witnesses", x.act(3, 2), 0);
+        is("its fee", x.act(3, 10), 0);
+        is("clauses", x.act(3, 6), 0);
+        Check.promise = 3;
+        NotaryBook y = Check.loaded(Check.TWO_ACTS + ";copy 1 0;lose 0");
+        for (int k = 0; k < 3; k++) {
+            Check.load(y, "book 5 2 4;act loan a b");
+            is("CASH", y.count(9), 0);
+            is("MARKS", y.act(1, 3), 0);
+            is("witnesses", y.act(1, 2), 0);
+            is("copies", y.count(8), 0);
+            is("what agrees", y.gap(), 0);
+            leavesAre(y, FAST);
+            y.strike(0);
+            y.lose(0);
+            Check.load(y, Check.TWO_ACTS + ";copy 1 0;lose 0");
+            is("CASH", y.count(9), 12);
+            y.burn(0);
+            is("what agrees", y.gap(), 0);
+        }
+    }
+
     public static void main(String[] args) {
         begin();
         leavesThatCome();
@@ -534,6 +616,8 @@ public final class ChangeTest {
         undo();
         undoable();
         slots();
+        wholeState();
+        nothingStays();
         Check.end("ChangeTest");
     }
 }

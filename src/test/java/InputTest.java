@@ -61,7 +61,15 @@ public final class InputTest {
         int n = Check.put(x, "book 4 0 2;act sale abcde");
         Check.is("a word ends at the n-th byte", x.load(n - 2), 1);
         Check.is("its letters", x.word(1, 0, 4), 3);
+        int m = Check.put(x, "book 4 0 23");
+        Check.is("a number ends at the n-th byte", x.load(m - 1), 0);
+        Check.is("GATHER", x.count(2), 2);
         Check.throwsJust(Check.ARGUMENT, "no bytes", () -> x.load(0));
+        String blanks = Check.words(290).replaceAll("[a-z]", " ");
+        for (String end : new String[] {"book 20 4 4", "book 4 0 2;act loan a", "book 4 0 2;act loan (a)"}) {
+            Check.put(x, (blanks + blanks).substring(0, 600 - end.length()) + end);
+            Check.is("a full buffer that ends with " + end, x.load(600), end.contains("act") ? 1 : 0);
+        }
     }
 
     private static void syntax() {
