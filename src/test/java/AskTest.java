@@ -1,43 +1,23 @@
 /** Promises 7 to 38: what is asked of a book. The answers are worked out by hand from ../shared/DOC.md. */
-public final class AskTest {
+public final class AskTest extends Check {
     // The clauses of this body: 0 has a, b and c in it, 1 has a, 2 has clause 3, and that has b.
     private static final String CLAUSES = "((a) ((b)) c) d";
 
-    private static NotaryBook twoActs() {
-        return Check.loaded(Check.TWO_ACTS);
-    }
-
-    private static void is(String call, Object got, Object want) {
-        Check.is(call, got, want);
-    }
-
-    private static void state(String call, Check.Call it) {
-        Check.throwsJust(Check.STATE, call, it);
-    }
-
-    private static void index(String call, Check.Call it) {
-        Check.throwsJust(Check.INDEX, call, it);
-    }
-
-    private static void argument(String call, Check.Call it) {
-        Check.throwsJust(Check.ARGUMENT, call, it);
-    }
-
     private static int writtenIs(NotaryBook x, int bytes, String want) {
-        is("the text", Check.text(x, bytes), want);
+        is("the text", text(x, bytes), want);
         return bytes;
     }
 
     // ---- acts, words and clauses
 
     private static void count() {
-        Check.promise = 7;
+        promise = 7;
         NotaryBook x = twoActs();
         int[] due = {4, 1, 2, 2, 12, 3, 0, 0, 0, 9, 3, 9, 1, 1, 0, 0};
-        NotaryBook y = Check.loaded("book 4 3 3;act loan a b (c d) e f g h i;seal 4 0;copy 1 2;lose 0;"
+        NotaryBook y = loaded("book 4 3 3;act loan a b (c d) e f g h i;seal 4 0;copy 1 2;lose 0;"
                 + "act sale j;insert 0 k");
         int[] dueOfY = {4, 3, 3, 2, 10, 3, 1, 1, 1, 14, 1, 11, 1, 0, 2, 3};
-        NotaryBook z = Check.loaded("book 20 0 4");
+        NotaryBook z = loaded("book 20 0 4");
         int[] dueOfZ = {20, 0, 4, 0, 0, 0, 0, 0, 0, 0, 0, 0, 0, 0, 0, 0};
         for (int what = 0; what < due.length; what++) {
             is("count " + what, x.count(what), due[what]);
@@ -50,10 +30,10 @@ public final class AskTest {
     }
 
     private static void act() {
-        Check.promise = 8;
+        promise = 8;
         NotaryBook x = twoActs();
         x.addCopy(1, 2);
-        Check.begin(x, 2, CLAUSES);
+        begin(x, 2, CLAUSES);
         int[] first = {0, 1, 2, 3, 7, 4, 1, 1, 0, 1, 9, 1};
         int[] second = {1, 2, 0, 0, 5, 5, 2, 2, 1, 2, 0, 0};
         int[] third = {2, 0, 0, 0, 4, 4, 4, 3, 3, 3, 0, 0};
@@ -73,7 +53,7 @@ public final class AskTest {
     }
 
     private static void word() {
-        Check.promise = 9;
+        promise = 9;
         NotaryBook x = twoActs();
         x.addCopy(1, 2);
         x.addCopy(1, 1);
@@ -94,7 +74,7 @@ public final class AskTest {
         x.lose(0);
         is("a word of a lost leaf", x.word(1, 1, 5), 0);
         is("one that a copy has", x.word(1, 0, 5), 1);
-        Check.begin(x, 0, CLAUSES);
+        begin(x, 0, CLAUSES);
         int[] innermost = {1, 3, 0, -1};
         int[] depths = {2, 3, 1, 0};
         for (int i = 0; i < 4; i++) {
@@ -113,10 +93,10 @@ public final class AskTest {
     private static void letters() {
         NotaryBook x = twoActs();
         x.lose(0);
-        Check.begin(x, 0, "abcdefgh z");
-        Check.interline(x, 0, "one");
-        Check.interline(x, 0, "two");
-        Check.promise = 10;
+        begin(x, 0, "abcdefgh z");
+        interline(x, 0, "one");
+        interline(x, 0, "two");
+        promise = 10;
         for (int k = 0; k < 5; k++) {
             is("letter " + k, x.letter(1, 1, k), (int) "house".charAt(k));
         }
@@ -130,7 +110,7 @@ public final class AskTest {
         index("word 7", () -> x.letter(1, 7, 0));
         index("act 4", () -> x.letter(4, 0, 0));
         state("without a book", () -> new NotaryBook().letter(1, 0, 0));
-        Check.promise = 11;
+        promise = 11;
         for (int k = 0; k < 4; k++) {
             is("letter " + k, x.innerLetter(1, 1, 0, k), (int) "barn".charAt(k));
         }
@@ -147,9 +127,9 @@ public final class AskTest {
     }
 
     private static void clause() {
-        Check.promise = 12;
+        promise = 12;
         NotaryBook x = twoActs();
-        Check.begin(x, 0, CLAUSES);
+        begin(x, 0, CLAUSES);
         x.strike(1);
         int[][] due = {
             {1, 0, 2, 4, 3, 0, 1, 0},
@@ -166,7 +146,7 @@ public final class AskTest {
             }
         }
         x.cancel();
-        Check.begin(x, 0, "a ((((b)))) ((((c) d))) (e)");
+        begin(x, 0, "a ((((b)))) ((((c) d))) (e)");
         is("deepest", x.clause(4, 3, 4), 4);
         is("the last one", x.clause(4, 8, 0), 4);
         is("the one with d", x.clause(4, 6, 2), 2);
@@ -183,7 +163,7 @@ public final class AskTest {
     // ---- leaves and copies
 
     private static void leaf() {
-        Check.promise = 13;
+        promise = 13;
         NotaryBook x = twoActs();
         int[][] due = {{0, 4, 1, 1, 0, 1}, {0, 4, 2, 0, 0, 1}, {0, 4, 1, -1, 1, 2}};
         for (int l = 0; l < 3; l++) {
@@ -191,7 +171,7 @@ public final class AskTest {
                 is("leaf " + l + " " + what, x.leaf(l, what), due[l][what]);
             }
         }
-        Check.begin(x, 0, "a");
+        begin(x, 0, "a");
         int[] last = {0, 1, 1, 2, 1, 3};
         for (int what = 0; what < 6; what++) {
             is("leaf 3 " + what, x.leaf(3, what), last[what]);
@@ -202,8 +182,8 @@ public final class AskTest {
         is("loose", x.leaf(1, 0), 1);
         int[] mates = {2, -1, 0, 5, -1, 3};
         int[] matesOfFour = {3, 2, 1, 0, -1, -1};
-        NotaryBook three = Check.loaded("book 4 0 3;act sale " + Check.words(24));
-        NotaryBook four = Check.loaded("book 4 0 4;act sale " + Check.words(24));
+        NotaryBook three = loaded("book 4 0 3;act sale " + words(24));
+        NotaryBook four = loaded("book 4 0 4;act sale " + words(24));
         for (int l = 0; l < 6; l++) {
             is("mate of " + l, three.leaf(l, 3), mates[l]);
             is("gathering of " + l, three.leaf(l, 4), l / 3);
@@ -221,7 +201,7 @@ public final class AskTest {
         x.addCopy(1, 0);
         x.addCopy(1, 2);
         x.addCopy(1, 1);
-        Check.promise = 14;
+        promise = 14;
         int[][] due = {{1, 0, 4, 3, 0}, {1, 2, 2, 1, 0}, {1, 1, 3, 2, 0}};
         for (int c = 0; c < 3; c++) {
             for (int what = 0; what < 5; what++) {
@@ -246,7 +226,7 @@ public final class AskTest {
     }
 
     private static void has() {
-        Check.promise = 15;
+        promise = 15;
         NotaryBook x = twoActs();
         x.addCopy(1, 0);
         x.addCopy(1, 1);
@@ -266,13 +246,13 @@ public final class AskTest {
 
     private static void known() {
         NotaryBook x = twoActs();
-        Check.promise = 16;
+        promise = 16;
         is("all", x.known(1), 7);
-        Check.promise = 17;
+        promise = 17;
         is("all are known", x.firstUnknown(1), -1);
         x.addCopy(1, 2);
         x.lose(0);
-        Check.promise = 16;
+        promise = 16;
         is("without a leaf", x.known(1), 4);
         is("an act on other leaves", x.known(2), 5);
         x.lose(1);
@@ -281,7 +261,7 @@ public final class AskTest {
         index("act 3", () -> x.known(3));
         index("act 0", () -> x.known(0));
         state("without a book", () -> new NotaryBook().known(1));
-        Check.promise = 17;
+        promise = 17;
         is("behind one that a copy has", x.firstUnknown(1), 1);
         is("the first word of all", x.firstUnknown(2), 0);
         x.recover(0);
@@ -292,15 +272,15 @@ public final class AskTest {
     }
 
     private static void gap() {
-        Check.promise = 18;
+        promise = 18;
         NotaryBook x = twoActs();
         is("a loaded book", x.gap(), 0);
         x.addCopy(1, 0);
         x.lose(1);
         x.burn(0);
         is("after a copy is burnt", x.gap(), 0);
-        Check.begin(x, 1, CLAUSES);
-        Check.interline(x, 3, "x");
+        begin(x, 1, CLAUSES);
+        interline(x, 3, "x");
         x.strikeClause(1);
         is("with an open act", x.gap(), 0);
         x.seal(4, 2);
@@ -308,18 +288,18 @@ public final class AskTest {
         x.undo();
         x.undo();
         is("after undo", x.gap(), 0);
-        is("an empty book", Check.loaded("book 4 0 2").gap(), 0);
+        is("an empty book", loaded("book 4 0 2").gap(), 0);
         state("without a book", () -> new NotaryBook().gap());
     }
 
     // ---- reasons
 
     private static void whyNotSeal() {
-        Check.promise = 19;
+        promise = 19;
         NotaryBook x = twoActs();
         is("no act is open", x.whyNotSeal(1, 0), 1);
         argument("10 witnesses", () -> x.whyNotSeal(10, 0));
-        Check.begin(x, 0, "a");
+        begin(x, 0, "a");
         is("it can", x.whyNotSeal(1, 0), 0);
         is("more witnesses", x.whyNotSeal(9, 0), 0);
         is("too few witnesses, and other marks", x.whyNotSeal(0, 5), 2);
@@ -327,7 +307,7 @@ public final class AskTest {
         x.strike(0);
         is("other marks, and no word stands", x.whyNotSeal(1, 0), 3);
         is("no word stands", x.whyNotSeal(1, 1), 4);
-        Check.interline(x, 0, "b");
+        interline(x, 0, "b");
         is("an interlined word stands", x.whyNotSeal(1, 2), 0);
         argument("-1 witnesses", () -> x.whyNotSeal(-1, 0));
         argument("100 marks", () -> x.whyNotSeal(1, 100));
@@ -336,9 +316,9 @@ public final class AskTest {
     }
 
     private static void whyNotCopy() {
-        Check.promise = 20;
+        promise = 20;
         NotaryBook x = twoActs();
-        Check.begin(x, 0, "a");
+        begin(x, 0, "a");
         is("it can", x.whyNotCopy(1, 0), 0);
         is("it is cancelled", x.whyNotCopy(2, 0), 1);
         is("it is open", x.whyNotCopy(3, 2), 1);
@@ -360,16 +340,16 @@ public final class AskTest {
         argument("grade 3", () -> x.whyNotCopy(2, 3));
         argument("grade -1", () -> x.whyNotCopy(1, -1));
         state("without a book", () -> new NotaryBook().whyNotCopy(0, 3));
-        NotaryBook y = Check.loaded("book 4 0 2;act sale a b;strike 0;strike 1;insert 0 c;seal 0 3;lose 0");
+        NotaryBook y = loaded("book 4 0 2;act sale a b;strike 0;strike 1;insert 0 c;seal 0 3;lose 0");
         is("only an interlined word stands", y.whyNotCopy(1, 0), 0);
         is("the copy would have none", y.whyNotCopy(1, 2), 0);
     }
 
     private static void whyNotStrike() {
-        Check.promise = 21;
+        promise = 21;
         NotaryBook x = twoActs();
         is("no act is open", x.whyNotStrike(99), 1);
-        Check.begin(x, 0, "a b");
+        begin(x, 0, "a b");
         is("it can", x.whyNotStrike(1), 0);
         is("no such word", x.whyNotStrike(2), 2);
         is("no such word", x.whyNotStrike(-1), 2);
@@ -383,61 +363,61 @@ public final class AskTest {
 
     private static void lostLeaves() {
         NotaryBook x = twoActs();
-        Check.promise = 23;
+        promise = 23;
         is("of equal ones the first", x.worstLeaf(), 0);
         x.addCopy(1, 1);
-        Check.promise = 22;
+        promise = 22;
         is("all but one", x.unknownIf(0), 3);
         is("all but two", x.unknownIf(1), 2);
         is("all", x.unknownIf(2), 4);
         is("nothing is changed", x.leaf(2, 0), 0);
-        Check.promise = 23;
+        promise = 23;
         is("the last leaf", x.worstLeaf(), 2);
         x.lose(2);
         is("another, as that is lost", x.worstLeaf(), 0);
-        Check.promise = 22;
+        promise = 22;
         is("it is lost", x.unknownIf(2), 0);
         index("leaf 3", () -> x.unknownIf(3));
         index("leaf -1", () -> x.unknownIf(-1));
         state("without a book", () -> new NotaryBook().unknownIf(0));
-        Check.promise = 23;
+        promise = 23;
         x.lose(0);
         x.lose(1);
         is("all are lost", x.worstLeaf(), 0);
-        is("no leaves", Check.loaded("book 4 0 2").worstLeaf(), -1);
+        is("no leaves", loaded("book 4 0 2").worstLeaf(), -1);
         state("without a book", () -> new NotaryBook().worstLeaf());
     }
 
     private static void shakenOut() {
-        Check.promise = 24;
-        NotaryBook x = Check.loaded("book 4 0 2;act sale a b c d e;cancel");
+        promise = 24;
+        NotaryBook x = loaded("book 4 0 2;act sale a b c d e;cancel");
         is("all fast", x.shakenOut(), 0);
         x.lose(1);
         is("one loose", x.shakenOut(), 1);
-        Check.begin(x, 0, "f");
+        begin(x, 0, "f");
         is("a loose one whose mate is fast", x.shakenOut(), 2);
         is("nothing is changed", x.leaf(0, 0) * 10 + x.leaf(1, 0), 10);
         x.shake();
         is("after a shake", x.shakenOut(), 1);
         x.shake();
         is("after two", x.shakenOut(), 0);
-        is("no leaves", Check.loaded("book 4 0 2").shakenOut(), 0);
+        is("no leaves", loaded("book 4 0 2").shakenOut(), 0);
         state("without a book", () -> new NotaryBook().shakenOut());
         // A mate that was sewn, while its leaf was lost before, stays fast.
-        NotaryBook y = Check.loaded("book 4 0 2;act sale a b c d e f g h i j k l m;lose 0;sew 1;lose 2");
+        NotaryBook y = loaded("book 4 0 2;act sale a b c d e f g h i j k l m;lose 0;sew 1;lose 2");
         is("one of two", y.shakenOut(), 1);
     }
 
     private static void leavesFor() {
-        Check.promise = 25;
+        promise = 25;
         NotaryBook x = twoActs();
         int[][] due = {{0, 0}, {1, 1}, {4, 1}, {5, 2}, {36, 9}, {37, -1}, {240, -1}};
         for (int[] row : due) {
             is("leavesFor " + row[0], x.leavesFor(row[0]), row[1]);
         }
-        NotaryBook y = Check.loaded("book 20 0 2");
+        NotaryBook y = loaded("book 20 0 2");
         is("a whole book", y.leavesFor(240), 12);
-        Check.begin(y, 0, "a");
+        begin(y, 0, "a");
         is("room on the leaf", y.leavesFor(19), 0);
         is("one word more", y.leavesFor(20), 1);
         is("one word too many", y.leavesFor(240), -1);
@@ -447,9 +427,9 @@ public final class AskTest {
     }
 
     private static void copyWords() {
-        Check.promise = 26;
+        promise = 26;
         NotaryBook x = twoActs();
-        Check.begin(x, 0, "a");
+        begin(x, 0, "a");
         int[][] due = {{4, 3, 2}, {5, 5, 2}, {1, 1, 1}};
         for (int a = 1; a <= 3; a++) {
             for (int grade = 0; grade < 3; grade++) {
@@ -457,8 +437,8 @@ public final class AskTest {
             }
         }
         x.strike(0);
-        Check.interline(x, 0, "b");
-        Check.interline(x, 0, "c");
+        interline(x, 0, "b");
+        interline(x, 0, "c");
         is("two interlined", x.copyWords(3, 0), 2);
         is("none written", x.copyWords(3, 1), 0);
         is("none written", x.copyWords(3, 2), 0);
@@ -470,7 +450,7 @@ public final class AskTest {
     }
 
     private static void bestCopy() {
-        Check.promise = 27;
+        promise = 27;
         NotaryBook x = twoActs();
         is("of the first two the greater grade", x.bestCopy(1), 1);
         is("it is cancelled", x.bestCopy(2), -1);
@@ -479,7 +459,7 @@ public final class AskTest {
         x.burn(0);
         x.lose(1);
         is("its last word is not known", x.bestCopy(1), -1);
-        NotaryBook y = Check.loaded("book 4 0 2;act sale " + Check.words(12) + ";seal 0 0;lose 1");
+        NotaryBook y = loaded("book 4 0 2;act sale " + words(12) + ";seal 0 0;lose 1");
         is("the first and the last word are known", y.bestCopy(1), 2);
         y.recover(1);
         is("all are known", y.bestCopy(1), 1);
@@ -487,19 +467,19 @@ public final class AskTest {
             y.addCopy(1, 2);
         }
         is("there are 8 copies", y.bestCopy(1), -1);
-        is("one word", Check.loaded("book 4 0 2;act sale a;seal 0 0").bestCopy(1), 2);
-        is("no written word stands", Check.loaded("book 4 0 2;act sale a;strike 0;insert 0 b;seal 0 2").bestCopy(1), 2);
+        is("one word", loaded("book 4 0 2;act sale a;seal 0 0").bestCopy(1), 2);
+        is("no written word stands", loaded("book 4 0 2;act sale a;strike 0;insert 0 b;seal 0 2").bestCopy(1), 2);
         index("act 0", () -> x.bestCopy(0));
         index("act 3", () -> x.bestCopy(3));
         state("without a book", () -> new NotaryBook().bestCopy(1));
     }
 
     private static void standingIf() {
-        Check.promise = 28;
+        promise = 28;
         NotaryBook x = twoActs();
         argument("no act is open", () -> x.standingIf(0, false));
-        Check.begin(x, 0, CLAUSES);
-        Check.interline(x, 2, "x");
+        begin(x, 0, CLAUSES);
+        interline(x, 2, "x");
         is("a word", x.standingIf(0, false), 4);
         is("its clause", x.standingIf(0, true), 4);
         is("a clause of three", x.standingIf(2, true), 2);
@@ -518,46 +498,46 @@ public final class AskTest {
     // ---- words that are looked for
 
     private static void findWord() {
-        Check.promise = 29;
+        promise = 29;
         NotaryBook x = twoActs();
-        is("an interlined one", Check.find(x, "barn"), 1);
+        is("an interlined one", find(x, "barn"), 1);
         is("the buffer is empty", x.buffered(), 0);
-        is("a written one of a cancelled act", Check.find(x, "dear"), 2);
-        is("a struck one", Check.find(x, "house"), 0);
-        is("one of two that is not struck", Check.find(x, "the"), 1);
-        is("a part of one", Check.find(x, "dea"), 0);
-        is("more than one", Check.find(x, "dears"), 0);
-        is("a blank behind it", Check.find(x, "dear "), 0);
-        is("no word", Check.find(x, "7"), 0);
-        is("nine letters", Check.find(x, "abcdefghi"), 0);
+        is("a written one of a cancelled act", find(x, "dear"), 2);
+        is("a struck one", find(x, "house"), 0);
+        is("one of two that is not struck", find(x, "the"), 1);
+        is("a part of one", find(x, "dea"), 0);
+        is("more than one", find(x, "dears"), 0);
+        is("a blank behind it", find(x, "dear "), 0);
+        is("no word", find(x, "7"), 0);
+        is("nine letters", find(x, "abcdefghi"), 0);
         x.lose(2);
-        is("one that is not known", Check.find(x, "dear"), 2);
-        Check.begin(x, 0, "abcdefgh dear zebra");
-        is("eight letters of an open act", Check.find(x, "abcdefgh"), 3);
-        is("the first act", Check.find(x, "dear"), 2);
+        is("one that is not known", find(x, "dear"), 2);
+        begin(x, 0, "abcdefgh dear zebra");
+        is("eight letters of an open act", find(x, "abcdefgh"), 3);
+        is("the first act", find(x, "dear"), 2);
         x.strike(2);
-        is("struck again", Check.find(x, "zebra"), 0);
+        is("struck again", find(x, "zebra"), 0);
         is("no change", x.undoable(), 3);
-        Check.put(x, "barn");
+        put(x, "barn");
         index("more than the buffer has", () -> x.findWord(21));
         index("less than none", () -> x.findWord(-1));
         is("the buffer stays", x.buffered(), 20);
         is("no bytes", x.findWord(0), 0);
         is("the buffer is empty", x.buffered(), 0);
         NotaryBook y = new NotaryBook();
-        Check.put(y, "barn");
+        put(y, "barn");
         state("without a book", () -> y.findWord(99));
         is("the buffer stays", y.buffered(), 20);
     }
 
     private static void longest() {
-        Check.promise = 30;
+        promise = 30;
         NotaryBook x = twoActs();
         is("not the struck one", x.longest(1), 6);
         is("in a clause", x.longest(2), 3);
-        Check.begin(x, 0, "a bb cc d");
+        begin(x, 0, "a bb cc d");
         is("the first of two", x.longest(3), 1);
-        Check.interline(x, 0, "long");
+        interline(x, 0, "long");
         is("written ones alone", x.longest(3), 1);
         x.strike(1);
         is("the other one", x.longest(3), 2);
@@ -573,10 +553,10 @@ public final class AskTest {
     }
 
     private static void common() {
-        Check.promise = 31;
+        promise = 31;
         NotaryBook x = twoActs();
         is("none", x.common(1, 2), 0);
-        Check.begin(x, 0, "the sold the barn house the");
+        begin(x, 0, "the sold the barn house the");
         is("each one", x.common(3, 1), 4);
         is("each one of the other act", x.common(1, 3), 2);
         is("with itself", x.common(3, 3), 6);
@@ -593,8 +573,8 @@ public final class AskTest {
 
     private static void quotients() {
         NotaryBook x = twoActs();
-        NotaryBook empty = Check.loaded("book 4 0 2");
-        Check.promise = 32;
+        NotaryBook empty = loaded("book 4 0 2");
+        promise = 32;
         is("all", x.knownShare(), 1.0f);
         is("no words", empty.knownShare(), 0.0f);
         x.lose(0);
@@ -604,16 +584,16 @@ public final class AskTest {
         x.lose(2);
         is("none", x.knownShare(), 0.0f);
         state("without a book", () -> new NotaryBook().knownShare());
-        Check.promise = 33;
+        promise = 33;
         is("one act", x.meanWords(), 4.0);
-        Check.begin(x, 0, "a");
+        begin(x, 0, "a");
         is("an open one", x.meanWords(), 4.0);
         x.seal(1, 0);
         is("two acts", x.meanWords(), 2.5);
-        Check.begin(x, 0, "a");
+        begin(x, 0, "a");
         x.seal(1, 0);
         is("three acts", x.meanWords(), 2.0);
-        Check.begin(x, 0, "a b");
+        begin(x, 0, "a b");
         x.seal(1, 0);
         is("four acts", x.meanWords(), 2.0);
         is("no act", empty.meanWords(), 0.0);
@@ -623,16 +603,16 @@ public final class AskTest {
     // ---- texts
 
     private static void writeAct() {
-        Check.promise = 34;
+        promise = 34;
         NotaryBook x = twoActs();
         is("bytes", writtenIs(x, x.writeAct(1), "the -house ^barn ( -by -the -sea ) is sold"), 42);
         writtenIs(x, x.writeAct(2), "all to ( my ( dear ) son )");
         x.addCopy(1, 2);
         x.lose(0);
         writtenIs(x, x.writeAct(1), "the ? ^barn ( ? ? -sea ) is sold");
-        Check.begin(x, 0, CLAUSES);
-        Check.interline(x, 1, "x");
-        Check.interline(x, 1, "y");
+        begin(x, 0, CLAUSES);
+        interline(x, 1, "x");
+        interline(x, 1, "y");
         writtenIs(x, x.writeAct(3), "( ( a ) ( ( b ^x ^y ) ) c ) d");
         x.strikeClause(1);
         writtenIs(x, x.writeAct(3), "( ( a ) ( ( -b ^x ^y ) ) c ) d");
@@ -642,15 +622,15 @@ public final class AskTest {
     }
 
     private static void writeStanding() {
-        Check.promise = 35;
+        promise = 35;
         NotaryBook x = twoActs();
         is("bytes", writtenIs(x, x.writeStanding(1), "the barn is sold"), 16);
         writtenIs(x, x.writeStanding(2), "all to my dear son");
         x.lose(0);
         writtenIs(x, x.writeStanding(1), "? barn is sold");
-        Check.begin(x, 0, "(a b)");
-        Check.interline(x, 0, "y");
-        Check.interline(x, 0, "z");
+        begin(x, 0, "(a b)");
+        interline(x, 0, "y");
+        interline(x, 0, "z");
         writtenIs(x, x.writeStanding(3), "a y z b");
         x.undo();
         x.undo();
@@ -662,7 +642,7 @@ public final class AskTest {
     }
 
     private static void writeLeaf() {
-        Check.promise = 36;
+        promise = 36;
         NotaryBook x = twoActs();
         writtenIs(x, x.writeLeaf(0), "1:the house by the");
         is("bytes", writtenIs(x, x.writeLeaf(1), "sea is sold 2:all"), 17);
@@ -671,12 +651,12 @@ public final class AskTest {
         x.lose(0);
         is("a lost one", writtenIs(x, x.writeLeaf(0), "?"), 1);
         writtenIs(x, x.writeLeaf(1), "sea is sold 2:all");
-        Check.begin(x, 0, "a");
+        begin(x, 0, "a");
         x.cancel();
-        Check.begin(x, 0, "(b)");
-        Check.interline(x, 0, "x");
+        begin(x, 0, "(b)");
+        interline(x, 0, "x");
         writtenIs(x, x.writeLeaf(3), "3:a 4:b");
-        NotaryBook y = Check.loaded("book 20 0 2;act sale a;cancel;act sale b;cancel;act sale c;cancel;"
+        NotaryBook y = loaded("book 20 0 2;act sale a;cancel;act sale b;cancel;act sale c;cancel;"
                 + "act sale d;cancel;act sale e;cancel;act sale f;cancel;act sale g;cancel;act sale h;cancel;"
                 + "act sale i;cancel;act sale j k");
         writtenIs(y, y.writeLeaf(0), "1:a 2:b 3:c 4:d 5:e 6:f 7:g 8:h 9:i 10:j k");
@@ -686,7 +666,7 @@ public final class AskTest {
     }
 
     private static void writeCopy() {
-        Check.promise = 37;
+        promise = 37;
         NotaryBook x = twoActs();
         x.addCopy(1, 0);
         x.addCopy(1, 1);
@@ -695,12 +675,12 @@ public final class AskTest {
         writtenIs(x, x.writeCopy(0), "the barn is sold");
         is("bytes", writtenIs(x, x.writeCopy(1), "the is sold"), 11);
         writtenIs(x, x.writeCopy(2), "the sold");
-        NotaryBook y = Check.loaded("book 4 0 2;act sale a;strike 0;insert 0 b;insert 0 c;seal 0 3;"
+        NotaryBook y = loaded("book 4 0 2;act sale a;strike 0;insert 0 b;insert 0 c;seal 0 3;"
                 + "copy 1 0;copy 1 1;copy 1 2");
         writtenIs(y, y.writeCopy(0), "b c");
         is("no word", writtenIs(y, y.writeCopy(1), "."), 1);
         writtenIs(y, y.writeCopy(2), ".");
-        NotaryBook z = Check.loaded("book 4 0 2;act sale a;seal 0 0;copy 1 2");
+        NotaryBook z = loaded("book 4 0 2;act sale a;seal 0 0;copy 1 2");
         writtenIs(z, z.writeCopy(0), "a");
         index("copy 3", () -> x.writeCopy(3));
         index("copy -1", () -> x.writeCopy(-1));
@@ -708,7 +688,7 @@ public final class AskTest {
     }
 
     private static void textByte() {
-        Check.promise = 38;
+        promise = 38;
         NotaryBook x = twoActs();
         index("ahead of the first text", () -> x.textByte(0));
         x.writeLeaf(0);
@@ -724,9 +704,9 @@ public final class AskTest {
         x.lose(0);
         x.undo();
         x.restore(0);
-        Check.load(x, "book 4 0 2");
+        load(x, "book 4 0 2");
         is("the text stays behind load, undo and restore", x.textByte(17), (int) 'e');
-        Check.begin(x, 0, "a");
+        begin(x, 0, "a");
         x.writeAct(1);
         is("a shorter one", x.textByte(0), (int) 'a');
         index("takes its place", () -> x.textByte(1));
@@ -760,6 +740,6 @@ public final class AskTest {
         writeLeaf();
         writeCopy();
         textByte();
-        Check.end("AskTest");
+        end("AskTest");
     }
 }

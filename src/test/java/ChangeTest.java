@@ -1,42 +1,11 @@
 /** Promises 39 to 54: the changes, undo, and the slots. The answers are worked out by hand from ../shared/DOC.md. */
-public final class ChangeTest {
-    private static final int FAST = 0;
-    private static final int LOOSE = 1;
-    private static final int LOST = 2;
-
-    private static NotaryBook twoActs() {
-        return Check.loaded(Check.TWO_ACTS);
-    }
-
-    private static void is(String call, Object got, Object want) {
-        Check.is(call, got, want);
-    }
-
-    private static void state(String call, Check.Call it) {
-        Check.throwsJust(Check.STATE, call, it);
-    }
-
-    private static void index(String call, Check.Call it) {
-        Check.throwsJust(Check.INDEX, call, it);
-    }
-
-    private static void argument(String call, Check.Call it) {
-        Check.throwsJust(Check.ARGUMENT, call, it);
-    }
-
-    private static void leavesAre(NotaryBook x, int... states) {
-        is("leaves", x.count(5), states.length);
-        for (int l = 0; l < states.length && l < x.count(5); l++) {
-            is("leaf " + l, x.leaf(l, 0), states[l]);
-        }
-    }
-
+public final class ChangeTest extends Check {
     // ---- acts
 
     private static void begin() {
-        Check.promise = 39;
+        promise = 39;
         NotaryBook x = twoActs();
-        Check.put(x, "a(b) c");
+        put(x, "a(b) c");
         index("more than the buffer has", () -> x.begin(3, 21));
         index("less than none", () -> x.begin(0, -1));
         argument("kind 3", () -> x.begin(3, 4));
@@ -50,10 +19,10 @@ public final class ChangeTest {
         is("it is open", x.count(14), 3);
         is("its words", x.act(3, 4), 2);
         is("its clauses", x.act(3, 6), 1);
-        argument("an act is open", () -> Check.begin(x, 0, "a"));
+        argument("an act is open", () -> begin(x, 0, "a"));
         is("the buffer stays", x.buffered(), 20);
         NotaryBook y = new NotaryBook();
-        Check.put(y, "a");
+        put(y, "a");
         state("without a book", () -> y.begin(3, 99));
         is("the buffer stays", y.buffered(), 20);
         bodies();
@@ -64,75 +33,75 @@ public final class ChangeTest {
         NotaryBook x = twoActs();
         for (String body : new String[] {"", " ", "()", "(a", "a)", ")", "a;b", "a;", "7", "a 7", "abcdefghi", "A", "a.b",
                 "(((((a)))))", "a ()", "(a ())"}) {
-            argument("the body " + body, () -> Check.begin(x, 0, body));
+            argument("the body " + body, () -> begin(x, 0, body));
             x.findWord(0);
         }
         is("nothing is changed", x.count(3) + x.undoable(), 2);
         for (String body : new String[] {"a", " a ", "abcdefgh", "((((a))))", "act seal(cancel)copy", "a(b(c)d)e"}) {
-            is("the body " + body, Check.begin(x, 1, body), 3);
+            is("the body " + body, begin(x, 1, body), 3);
             x.undo();
         }
     }
 
     private static void limits() {
-        NotaryBook x = Check.loaded("book 4 0 2;act sale " + Check.words(47) + ";cancel");
-        argument("a 13th leaf", () -> Check.begin(x, 0, "a b"));
+        NotaryBook x = loaded("book 4 0 2;act sale " + words(47) + ";cancel");
+        argument("a 13th leaf", () -> begin(x, 0, "a b"));
         is("the buffer stays", x.buffered(), 20);
         x.findWord(0);
-        is("the last word of the last leaf", Check.begin(x, 0, "a"), 2);
+        is("the last word of the last leaf", begin(x, 0, "a"), 2);
         x.cancel();
-        argument("no room at all", () -> Check.begin(x, 0, "a"));
-        NotaryBook y = Check.loaded("book 20 0 2");
+        argument("no room at all", () -> begin(x, 0, "a"));
+        NotaryBook y = loaded("book 20 0 2");
         for (int a = 1; a <= 10; a++) {
-            is("act", Check.begin(y, 0, "a"), a);
+            is("act", begin(y, 0, "a"), a);
             y.cancel();
         }
-        argument("an 11th act", () -> Check.begin(y, 0, "a"));
-        NotaryBook z = Check.loaded("book 20 0 4;act sale " + Check.words(240) + ";seal 9 0");
+        argument("an 11th act", () -> begin(y, 0, "a"));
+        NotaryBook z = loaded("book 20 0 4;act sale " + words(240) + ";seal 9 0");
         is("240 words", z.count(4), 240);
         is("12 leaves", z.count(5), 12);
         is("the last word", z.word(1, 239, 0), 11);
     }
 
     private static void leavesThatCome() {
-        Check.promise = 39;
-        NotaryBook full = Check.loaded("book 4 0 2;act sale " + Check.words(12) + ";cancel;lose 2");
-        Check.begin(full, 0, "a");
+        promise = 39;
+        NotaryBook full = loaded("book 4 0 2;act sale " + words(12) + ";cancel;lose 2");
+        begin(full, 0, "a");
         leavesAre(full, FAST, FAST, LOST, LOOSE);
-        NotaryBook found = Check.loaded("book 4 0 2;act sale " + Check.words(9) + ";cancel;lose 2");
-        Check.begin(found, 0, Check.words(4));
+        NotaryBook found = loaded("book 4 0 2;act sale " + words(9) + ";cancel;lose 2");
+        begin(found, 0, words(4));
         leavesAre(found, FAST, FAST, FAST, FAST);
         is("its words are known", found.count(15), 0);
-        NotaryBook mate = Check.loaded("book 4 0 2;act sale " + Check.words(5) + ";cancel;lose 1");
-        Check.begin(mate, 0, "a");
+        NotaryBook mate = loaded("book 4 0 2;act sale " + words(5) + ";cancel;lose 1");
+        begin(mate, 0, "a");
         leavesAre(mate, LOOSE, FAST);
-        NotaryBook loose = Check.loaded("book 4 0 2;act sale " + Check.words(5) + ";cancel;lose 0");
-        Check.begin(loose, 0, Check.words(4));
+        NotaryBook loose = loaded("book 4 0 2;act sale " + words(5) + ";cancel;lose 0");
+        begin(loose, 0, words(4));
         leavesAre(loose, LOST, LOOSE, FAST);
-        NotaryBook four = Check.loaded("book 4 0 4;act sale " + Check.words(5) + ";cancel;lose 0;lose 1");
-        Check.begin(four, 0, Check.words(9));
+        NotaryBook four = loaded("book 4 0 4;act sale " + words(5) + ";cancel;lose 0;lose 1");
+        begin(four, 0, words(9));
         leavesAre(four, LOST, FAST, FAST, LOOSE);
-        NotaryBook three = Check.loaded("book 4 0 3;act sale " + Check.words(8) + ";cancel;lose 0;lose 1");
-        Check.begin(three, 0, Check.words(8));
+        NotaryBook three = loaded("book 4 0 3;act sale " + words(8) + ";cancel;lose 0;lose 1");
+        begin(three, 0, words(8));
         leavesAre(three, LOST, LOST, LOOSE, FAST);
-        NotaryBook line = Check.loaded("book 4 0 2;act sale a;cancel;lose 0;act will b c d;cancel;lose 0;act loan e");
+        NotaryBook line = loaded("book 4 0 2;act sale a;cancel;lose 0;act will b c d;cancel;lose 0;act loan e");
         leavesAre(line, LOST, LOOSE);
-        NotaryBook again = Check.loaded("book 4 0 2;act sale " + Check.words(8) + ";cancel");
-        Check.begin(again, 0, Check.words(8));
+        NotaryBook again = loaded("book 4 0 2;act sale " + words(8) + ";cancel");
+        begin(again, 0, words(8));
         again.lose(2);
         again.lose(3);
         again.undo();
         again.undo();
         again.undo();
-        Check.begin(again, 0, Check.words(8));
+        begin(again, 0, words(8));
         leavesAre(again, FAST, FAST, FAST, FAST);
     }
 
     private static void strike() {
-        Check.promise = 40;
+        promise = 40;
         NotaryBook x = twoActs();
         argument("no act is open", () -> x.strike(0));
-        Check.begin(x, 0, "a b c");
+        begin(x, 0, "a b c");
         is("two stand", x.strike(1), 2);
         is("it is struck", x.word(3, 1, 1), 1);
         is("one mark", x.act(3, 3), 1);
@@ -140,7 +109,7 @@ public final class ChangeTest {
         argument("no such word", () -> x.strike(3));
         argument("no such word", () -> x.strike(-1));
         is("no mark more", x.act(3, 3), 1);
-        Check.interline(x, 1, "d");
+        interline(x, 1, "d");
         is("an interlined one stands", x.strike(0), 2);
         is("the last written one", x.strike(2), 1);
         is("changes", x.undoable(), 5);
@@ -149,10 +118,10 @@ public final class ChangeTest {
     }
 
     private static void strikeClause() {
-        Check.promise = 41;
+        promise = 41;
         NotaryBook x = twoActs();
         argument("no act is open", () -> x.strikeClause(2));
-        Check.begin(x, 0, "a (b (c d) e) f");
+        begin(x, 0, "a (b (c d) e) f");
         is("the innermost one", x.strikeClause(2), 2);
         is("one mark", x.act(3, 3), 1);
         is("those that are struck stay so", x.strikeClause(4), 2);
@@ -160,7 +129,7 @@ public final class ChangeTest {
         is("it is a mark all the same", x.act(3, 3), 3);
         is("it is a change all the same", x.undoable(), 4);
         x.writeAct(3);
-        is("the text", Check.text(x, x.writeAct(3)), "a ( -b ( -c -d ) -e ) f");
+        is("the text", text(x, x.writeAct(3)), "a ( -b ( -c -d ) -e ) f");
         argument("a word in no clause", () -> x.strikeClause(0));
         argument("a word in no clause, behind one", () -> x.strikeClause(5));
         argument("no such word", () -> x.strikeClause(6));
@@ -170,22 +139,22 @@ public final class ChangeTest {
     }
 
     private static void interline() {
-        Check.promise = 42;
+        promise = 42;
         NotaryBook x = twoActs();
-        argument("no act is open", () -> Check.interline(x, 0, "x"));
+        argument("no act is open", () -> interline(x, 0, "x"));
         is("the buffer stays", x.buffered(), 20);
         x.findWord(0);
-        Check.begin(x, 0, "a b");
-        is("three stand", Check.interline(x, 0, "abcdefgh"), 3);
+        begin(x, 0, "a b");
+        is("three stand", interline(x, 0, "abcdefgh"), 3);
         is("the buffer is empty", x.buffered(), 0);
         is("one mark", x.act(3, 3), 1);
         is("its first letter", x.innerLetter(3, 0, 0, 0), (int) 'a');
         is("its last letter", x.innerLetter(3, 0, 0, 7), (int) 'h');
-        Check.interline(x, 0, "y");
-        Check.interline(x, 0, "z");
-        is("behind all that are there", Check.interline(x, 0, "x"), 6);
-        is("the order", Check.text(x, x.writeStanding(3)), "a abcdefgh y z x b");
-        Check.put(x, "word");
+        interline(x, 0, "y");
+        interline(x, 0, "z");
+        is("behind all that are there", interline(x, 0, "x"), 6);
+        is("the order", text(x, x.writeStanding(3)), "a abcdefgh y z x b");
+        put(x, "word");
         argument("4 are interlined there", () -> x.interline(0, 4));
         argument("no such word", () -> x.interline(2, 4));
         argument("no such word", () -> x.interline(-1, 4));
@@ -199,20 +168,20 @@ public final class ChangeTest {
         is("behind another word", x.interline(1, 3), 7);
         is("a part of the bytes", x.innerLetter(3, 1, 0, 2), (int) 'r');
         for (String bytes : new String[] {"A", "a1", "(a", "~", "`", "{"}) {
-            argument("the bytes " + bytes, () -> Check.interline(x, 1, bytes));
+            argument("the bytes " + bytes, () -> interline(x, 1, bytes));
             x.findWord(0);
         }
         x.strike(1);
-        is("behind a struck word", Check.interline(x, 1, "w"), 7);
+        is("behind a struck word", interline(x, 1, "w"), 7);
         NotaryBook y = new NotaryBook();
         state("without a book", () -> y.interline(0, 21));
     }
 
     private static void seal() {
-        Check.promise = 43;
+        promise = 43;
         NotaryBook x = twoActs();
         argument("no act is open", () -> x.seal(1, 0));
-        Check.begin(x, 0, "a b");
+        begin(x, 0, "a b");
         x.strike(0);
         argument("too few witnesses", () -> x.seal(0, 1));
         argument("other marks", () -> x.seal(1, 0));
@@ -226,22 +195,22 @@ public final class ChangeTest {
         is("CASH", x.count(9), 15);
         is("none is open", x.count(14), 0);
         argument("it is sealed", () -> x.seal(1, 1));
-        Check.begin(x, 1, "a b");
-        Check.interline(x, 1, "c");
+        begin(x, 1, "a b");
+        interline(x, 1, "c");
         is("the fee of a will", x.seal(9, 1), 6);
         is("witnesses", x.act(4, 2), 9);
-        Check.begin(x, 2, "a b");
+        begin(x, 2, "a b");
         x.strike(0);
         x.strike(1);
         argument("no word stands", () -> x.seal(1, 2));
-        Check.interline(x, 0, "c");
+        interline(x, 0, "c");
         is("the fee of a loan", x.seal(2, 3), 5);
         is("CASH", x.count(9), 26);
         x.undo();
         is("CASH as it was", x.count(9), 21);
         is("it is open again", x.count(14), 5);
         state("without a book", () -> new NotaryBook().seal(10, 0));
-        NotaryBook y = Check.loaded("book 4 0 2;act sale (a) b");
+        NotaryBook y = loaded("book 4 0 2;act sale (a) b");
         for (int k = 0; k < 100; k++) {
             y.strikeClause(0);
         }
@@ -252,14 +221,14 @@ public final class ChangeTest {
     }
 
     private static void cancel() {
-        Check.promise = 44;
+        promise = 44;
         NotaryBook x = twoActs();
         argument("no act is open", () -> x.cancel());
-        Check.begin(x, 0, "a b");
+        begin(x, 0, "a b");
         is("its number", x.cancel(), 3);
         is("it is cancelled", x.act(3, 1), 2);
         is("no fee", x.act(3, 10) + x.count(9), 9);
-        is("it keeps its number", Check.begin(x, 0, "a"), 4);
+        is("it keeps its number", begin(x, 0, "a"), 4);
         is("its words stay", x.count(4), 15);
         x.undo();
         is("changes", x.undoable(), 2);
@@ -270,7 +239,7 @@ public final class ChangeTest {
     // ---- copies
 
     private static void addCopy() {
-        Check.promise = 45;
+        promise = 45;
         NotaryBook x = twoActs();
         is("the first", x.addCopy(1, 0), 0);
         is("its fee", x.count(9), 12);
@@ -294,13 +263,13 @@ public final class ChangeTest {
         }
         argument("a 9th copy", () -> x.addCopy(1, 2));
         is("8 copies", x.count(8), 8);
-        Check.begin(x, 0, "a");
+        begin(x, 0, "a");
         argument("it is open", () -> x.addCopy(3, 2));
         state("without a book", () -> new NotaryBook().addCopy(0, 3));
     }
 
     private static void burn() {
-        Check.promise = 46;
+        promise = 46;
         NotaryBook x = twoActs();
         x.addCopy(1, 0);
         x.addCopy(1, 1);
@@ -327,7 +296,7 @@ public final class ChangeTest {
     // ---- leaves
 
     private static void lose() {
-        Check.promise = 47;
+        promise = 47;
         NotaryBook x = twoActs();
         is("four words", x.lose(0), 4);
         leavesAre(x, LOST, LOOSE, FAST);
@@ -341,12 +310,12 @@ public final class ChangeTest {
         NotaryBook y = twoActs();
         y.addCopy(1, 2);
         is("one word of it is in a copy", y.lose(0), 3);
-        NotaryBook own = Check.loaded("book 4 0 3;act sale " + Check.words(12) + ";cancel");
+        NotaryBook own = loaded("book 4 0 3;act sale " + words(12) + ";cancel");
         own.lose(1);
         leavesAre(own, FAST, LOST, FAST);
         own.lose(2);
         leavesAre(own, LOOSE, LOST, LOST);
-        NotaryBook four = Check.loaded("book 4 0 4;act sale " + Check.words(20) + ";cancel");
+        NotaryBook four = loaded("book 4 0 4;act sale " + words(20) + ";cancel");
         four.lose(1);
         leavesAre(four, FAST, LOST, LOOSE, FAST, FAST);
         four.lose(4);
@@ -355,7 +324,7 @@ public final class ChangeTest {
     }
 
     private static void recover() {
-        Check.promise = 48;
+        promise = 48;
         NotaryBook x = twoActs();
         argument("it is fast", () -> x.recover(0));
         x.lose(0);
@@ -378,8 +347,8 @@ public final class ChangeTest {
     }
 
     private static void sew() {
-        Check.promise = 49;
-        NotaryBook x = Check.loaded("book 4 0 2;act sale " + Check.words(16) + ";cancel;lose 0;lose 3");
+        promise = 49;
+        NotaryBook x = loaded("book 4 0 2;act sale " + words(16) + ";cancel;lose 0;lose 3");
         leavesAre(x, LOST, LOOSE, LOOSE, LOST);
         argument("it is lost", () -> x.sew(0));
         is("one is loose", x.sew(2), 1);
@@ -396,32 +365,32 @@ public final class ChangeTest {
     }
 
     private static void shake() {
-        Check.promise = 50;
-        NotaryBook x = Check.loaded("book 4 0 2;act sale " + Check.words(16) + ";cancel;lose 0;lose 3");
+        promise = 50;
+        NotaryBook x = loaded("book 4 0 2;act sale " + words(16) + ";cancel;lose 0;lose 3");
         is("two fall", x.shake(), 2);
         leavesAre(x, LOST, LOST, LOST, LOST);
         is("none falls", x.shake(), 0);
         is("it is a change all the same", x.undoable(), 2);
-        NotaryBook y = Check.loaded("book 4 0 2;act sale a b c d e;cancel;lose 1;act will f");
+        NotaryBook y = loaded("book 4 0 2;act sale a b c d e;cancel;lose 1;act will f");
         leavesAre(y, LOOSE, FAST);
         is("one falls", y.shake(), 1);
         leavesAre(y, LOST, LOOSE);
         is("its mate falls", y.shake(), 1);
         leavesAre(y, LOST, LOST);
-        is("no leaves", Check.loaded("book 4 0 2").shake(), 0);
+        is("no leaves", loaded("book 4 0 2").shake(), 0);
         state("without a book", () -> new NotaryBook().shake());
     }
 
     // ---- undo and slots
 
     private static void undo() {
-        Check.promise = 51;
+        promise = 51;
         NotaryBook x = twoActs();
         state("nothing to undo", () -> x.undo());
-        Check.begin(x, 0, "a b (c)");
+        begin(x, 0, "a b (c)");
         x.strike(0);
         x.strikeClause(2);
-        Check.interline(x, 1, "x");
+        interline(x, 1, "x");
         x.seal(1, 3);
         x.addCopy(3, 0);
         x.lose(3);
@@ -450,7 +419,7 @@ public final class ChangeTest {
     }
 
     private static void undoable() {
-        Check.promise = 52;
+        promise = 52;
         NotaryBook x = twoActs();
         for (int k = 1; k <= 12; k++) {
             x.lose(0);
@@ -471,10 +440,10 @@ public final class ChangeTest {
             x.shake();
         }
         is("eight at most", x.undoable(), 8);
-        Check.load(x, Check.TWO_ACTS);
+        load(x, TWO_ACTS);
         is("after load", x.undoable(), 0);
         x.shake();
-        Check.throwsJust(Check.ARGUMENT, "a load that fails", () -> Check.load(x, "book"));
+        argument("a load that fails", () -> load(x, "book"));
         is("after a load that fails", x.undoable(), 1);
         x.save(0);
         x.restore(0);
@@ -483,9 +452,9 @@ public final class ChangeTest {
 
     private static void slots() {
         NotaryBook x = twoActs();
-        Check.promise = 53;
+        promise = 53;
         is("acts", x.save(0), 2);
-        Check.begin(x, 0, "a");
+        begin(x, 0, "a");
         is("acts", x.save(1), 3);
         index("slot 2", () -> x.save(2));
         index("slot -1", () -> x.save(-1));
@@ -493,7 +462,7 @@ public final class ChangeTest {
         x.seal(1, 0);
         x.addCopy(3, 2);
         x.lose(0);
-        Check.promise = 54;
+        promise = 54;
         is("the first slot", x.restore(0), 2);
         is("leaves", x.count(6), 0);
         is("copies", x.count(8), 0);
@@ -505,12 +474,12 @@ public final class ChangeTest {
         is("the second slot", x.restore(1), 3);
         is("it is open", x.count(14), 3);
         x.cancel();
-        Check.promise = 53;
+        promise = 53;
         is("in place of what was saved", x.save(0), 3);
         x.undo();
         is("undo leaves the slot", x.restore(0), 3);
         is("it is cancelled", x.act(3, 1), 2);
-        Check.promise = 54;
+        promise = 54;
         index("slot 2", () -> x.restore(2));
         index("slot -1", () -> x.restore(-1));
         NotaryBook y = twoActs();
@@ -519,71 +488,71 @@ public final class ChangeTest {
         state("nothing is saved in the other one", () -> y.restore(1));
         index("without a book, slot 2", () -> new NotaryBook().restore(2));
         state("without a book", () -> new NotaryBook().restore(1));
-        Check.throwsJust(Check.ARGUMENT, "a load that fails", () -> Check.load(y, "book"));
+        argument("a load that fails", () -> load(y, "book"));
         is("after a load that fails", y.restore(0), 2);
-        Check.load(y, Check.TWO_ACTS);
+        load(y, TWO_ACTS);
         state("after load nothing is saved", () -> y.restore(0));
     }
 
     /** Everything that a slot or a change keeps comes back, and nothing stays of what came after it. */
     private static void wholeState() {
-        Check.promise = 54;
+        promise = 54;
         NotaryBook x = twoActs();
         x.addCopy(1, 2);
         x.addCopy(1, 0);
         x.save(0);
-        Check.begin(x, 2, "(a (b) c) d e");
+        begin(x, 2, "(a (b) c) d e");
         x.strike(0);
-        Check.interline(x, 2, "x");
-        Check.interline(x, 2, "y");
+        interline(x, 2, "x");
+        interline(x, 2, "y");
         x.lose(1);
         x.burn(0);
         x.save(1);
         x.restore(0);
         is("the copies", x.copy(0, 1) * 10 + x.copy(1, 1), 20);
-        Check.begin(x, 0, "f g (h i)");
+        begin(x, 0, "f g (h i)");
         x.seal(3, 0);
         x.addCopy(3, 1);
-        is("another act in the same place", Check.text(x, x.writeAct(3)), "f g ( h i )");
-        is("its copy", Check.text(x, x.writeCopy(2)), "f g h i");
+        is("another act in the same place", text(x, x.writeAct(3)), "f g ( h i )");
+        is("its copy", text(x, x.writeCopy(2)), "f g h i");
         x.restore(1);
-        is("the act", Check.text(x, x.writeAct(3)), "( -a ( b ) c ^x ^y ) d e");
+        is("the act", text(x, x.writeAct(3)), "( -a ( b ) c ^x ^y ) d e");
         is("its kind", x.act(3, 0), 2);
         is("its witnesses", x.act(3, 2), 0);
         is("its fee", x.act(3, 10), 0);
         is("its marks", x.act(3, 3), 3);
         leavesAre(x, LOOSE, LOST, FAST, FAST, FAST);
-        is("the copy", Check.text(x, x.writeCopy(0)), "the barn is sold");
+        is("the copy", text(x, x.writeCopy(0)), "the barn is sold");
         is("the words that it has", x.copy(0, 2), 4);
         is("the copies", x.count(8), 1);
         is("CASH", x.count(9), 13);
         is("what agrees", x.gap(), 0);
         x.restore(0);
-        is("the copy", Check.text(x, x.writeCopy(0)), "the sold");
+        is("the copy", text(x, x.writeCopy(0)), "the sold");
         leavesAre(x, FAST, FAST, FAST);
     }
 
     private static void nothingStays() {
-        Check.promise = 51;
+        promise = 51;
         NotaryBook x = twoActs();
-        Check.begin(x, 2, "((a) (b))");
+        begin(x, 2, "((a) (b))");
         x.strike(0);
-        Check.interline(x, 1, "x");
+        interline(x, 1, "x");
         x.strikeClause(1);
         x.seal(9, 3);
         for (int k = 0; k < 5; k++) {
             x.undo();
         }
-        Check.begin(x, 0, "c d");
-        is("the text", Check.text(x, x.writeAct(3)), "c d");
+        begin(x, 0, "c d");
+        is("the text", text(x, x.writeAct(3)), "c d");
         is("MARKS", x.act(3, 3), 0);
         is("witnesses", x.act(3, 2), 0);
         is("its fee", x.act(3, 10), 0);
         is("clauses", x.act(3, 6), 0);
-        Check.promise = 3;
-        NotaryBook y = Check.loaded(Check.TWO_ACTS + ";copy 1 0;lose 0");
+        promise = 3;
+        NotaryBook y = loaded(TWO_ACTS + ";copy 1 0;lose 0");
         for (int k = 0; k < 3; k++) {
-            Check.load(y, "book 5 2 4;act loan a b");
+            load(y, "book 5 2 4;act loan a b");
             is("CASH", y.count(9), 0);
             is("MARKS", y.act(1, 3), 0);
             is("witnesses", y.act(1, 2), 0);
@@ -592,7 +561,7 @@ public final class ChangeTest {
             leavesAre(y, FAST);
             y.strike(0);
             y.lose(0);
-            Check.load(y, Check.TWO_ACTS + ";copy 1 0;lose 0");
+            load(y, TWO_ACTS + ";copy 1 0;lose 0");
             is("CASH", y.count(9), 12);
             y.burn(0);
             is("what agrees", y.gap(), 0);
@@ -618,6 +587,6 @@ public final class ChangeTest {
         slots();
         wholeState();
         nothingStays();
-        Check.end("ChangeTest");
+        end("ChangeTest");
     }
 }

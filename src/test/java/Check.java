@@ -1,19 +1,21 @@
-/** What the tests of the promises have in common: how a test is told, and how texts come to an object and from it. */
-final class Check {
+/** What the tests have in common: how a test is told, and how texts come to an object and from it. */
+class Check {
     static final Class<?> STATE = IllegalStateException.class;
     static final Class<?> INDEX = IndexOutOfBoundsException.class;
     static final Class<?> ARGUMENT = IllegalArgumentException.class;
+
+    static final int FAST = 0;
+    static final int LOOSE = 1;
+    static final int LOST = 2;
 
     // Two acts on three leaves of four words: a sealed sale with marks, and a cancelled will.
     static final String TWO_ACTS = "book 4 1 2;act sale the house (by the sea) is sold;strike 1;"
             + "insert 1 barn;out 3;seal 2 3;act will all to (my (dear) son);cancel";
 
     static int promise = 0;
+    static String sentence = "";
     private static int passed = 0;
     private static int wrong = 0;
-
-    private Check() {
-    }
 
     /** Tells how it went, and ends the program with 1 if something was wrong. */
     static void end(String test) {
@@ -27,24 +29,61 @@ final class Check {
         Object answer();
     }
 
+    static int told() {
+        return passed + wrong;
+    }
+
     static void is(String call, Object got, Object want) {
         if (got.equals(want)) {
             passed++;
         } else {
             wrong++;
-            System.out.println("promise " + promise + ": " + call + " answered " + got + ", due is " + want);
+            System.out.println("promise " + promise + ": " + call + " answered " + got + ", due is " + want
+                    + (sentence.isEmpty() ? "" : " (" + sentence + ")"));
         }
+    }
+
+    private static String outcome(Call it) {
+        try {
+            it.answer();
+        } catch (RuntimeException e) {
+            return e.getClass().getName();
+        }
+        return "no exception";
+    }
+
+    static void answers(String call, Call it) {
+        is(call, outcome(it), "no exception");
     }
 
     /** The class must be just this one: the machine throws others, which lie below it. */
     static void throwsJust(Class<?> want, String call, Call it) {
-        Object got = "no exception";
-        try {
-            it.answer();
-        } catch (RuntimeException e) {
-            got = e.getClass();
-        }
-        is(call, got, want);
+        is(call, outcome(it), want.getName());
+    }
+
+    static void state(String call, Call it) {
+        throwsJust(STATE, call, it);
+    }
+
+    static void index(String call, Call it) {
+        throwsJust(INDEX, call, it);
+    }
+
+    static void argument(String call, Call it) {
+        throwsJust(ARGUMENT, call, it);
+    }
+
+    /** The call throws, and nothing that can be asked of the object is different then. */
+    static void refused(Class<?> want, NotaryBook x, String call, Call it) {
+        String before = Shot.of(x);
+        throwsJust(want, call, it);
+        is(call + " leaves all as it was", Shot.difference(before, Shot.of(x)), "");
+    }
+
+    /** Numbers that are not from low to high: those next to them, and such as wrap around to them in a smaller type. */
+    static int[] outside(int low, int high) {
+        return new int[] {low - 1, high + 1, low - 256, high + 256, low + 65536, Integer.MIN_VALUE, Integer.MAX_VALUE,
+                Integer.MIN_VALUE + low, Integer.MAX_VALUE - 1};
     }
 
     /** Appends a text, and blanks up to the next twenty bytes; returns the number of its own bytes. */
@@ -69,6 +108,10 @@ final class Check {
         return x;
     }
 
+    static NotaryBook twoActs() {
+        return loaded(TWO_ACTS);
+    }
+
     static int begin(NotaryBook x, int kind, String body) {
         return x.begin(kind, put(x, body));
     }
@@ -87,8 +130,15 @@ final class Check {
         for (int i = 0; i < bytes; i++) {
             s.append((char) x.textByte(i));
         }
-        throwsJust(INDEX, "textByte behind the text", () -> x.textByte(bytes));
+        index("textByte behind the text", () -> x.textByte(bytes));
         return s.toString();
+    }
+
+    static void leavesAre(NotaryBook x, int... states) {
+        is("leaves", x.count(5), states.length);
+        for (int l = 0; l < states.length && l < x.count(5); l++) {
+            is("leaf " + l, x.leaf(l, 0), states[l]);
+        }
     }
 
     /** The code and the position of the error that a text has; "0 -1" if it has none. */
