@@ -136,6 +136,12 @@ final class SentencesOfAsks extends Check {
         for (int depth = 0; depth <= 4; depth++) {
             is("the depth", loaded("book 4 0 2;act sale " + bodies[depth]).act(1, 7), depth);
         }
+        Doc.says(8, "6: clauses");
+        String[] clauses = {"a", "(a)", "a (b)", "((a)) (b)", "a ((b (c)) (d))"};
+        for (int k = 0; k < 5; k++) {
+            is("clauses", loaded("book 4 0 2;act will (z);cancel;act sale " + clauses[k]).act(2, 6), k == 4 ? 4 : k == 3 ? 3
+                    : k == 0 ? 0 : 1);
+        }
         Doc.says(8, "9: the leaf of its last word");
         NotaryBook y = loaded("book 4 0 2;act sale a b c d;cancel;act sale " + words(44));
         is("a full leaf", y.act(1, 9), 0);
@@ -248,6 +254,15 @@ final class SentencesOfAsks extends Check {
             Doc.says(12, pieces[what]);
             for (int c = 0; c < 6; c++) {
                 is("clause " + c, x.clause(2, c, what), due[what][c]);
+            }
+        }
+        NotaryBook y = loaded("book 20 0 2;act will " + words(12) + ";cancel;act sale (a b) (c (d e) f (g) h) i;insert 1 x;"
+                + "insert 3 y;strike 3");
+        int[][] later = {{0, 2, 3, 6}, {1, 7, 4, 6}, {2, 6, 2, 1}, {2, 5, 1, 1}, {1, 1, 2, 2}, {0, 2, 0, 0}};
+        for (int what = 0; what <= 5; what++) {
+            Doc.says(12, pieces[what]);
+            for (int c = 0; c < 4; c++) {
+                is("clause " + c + " of an act far behind", y.clause(2, c, what), later[what][c]);
             }
         }
         Doc.says(12, "number of a clause, from 0 in the order in which they begin");
@@ -665,6 +680,12 @@ final class SentencesOfAsks extends Check {
         is("no written word stands", loaded("book 4 0 2;act sale a;strike 0;insert 0 b;seal 0 2;lose 0").bestCopy(1), 2);
         NotaryBook other = loaded("book 4 0 2;act sale a b c;seal 0 0;act sale d e f;seal 0 0;copy 2 0");
         is("a copy of another act", other.bestCopy(1), 1);
+        other.burn(0);
+        is("the second act", other.bestCopy(2), 1);
+        other.addCopy(2, 1);
+        is("a copy has it all", other.bestCopy(2), 2);
+        NotaryBook behind = loaded("book 4 0 2;act sale " + words(12) + ";cancel;act sale d e f;seal 0 0");
+        is("a short act far behind", behind.bestCopy(2), 1);
     }
 
     private static void standingIf() {
@@ -883,6 +904,12 @@ final class SentencesOfAsks extends Check {
         written(x, x.writeStanding(1), "x y z c d");
         x.lose(0);
         written(x, x.writeStanding(1), "x y z ? ?");
+        x.recover(0);
+        x.lose(1);
+        written(x, x.writeStanding(1), "x y z c d");
+        NotaryBook behind = loaded("book 4 0 2;act sale a b c;cancel;act will d e f;lose 1");
+        written(behind, behind.writeStanding(2), "d ? ?");
+        written(behind, behind.writeAct(2), "d ? ?");
         NotaryBook y = loaded("book 4 0 2;act sale a;strike 0;lose 0");
         written(y, y.writeStanding(1), ".");
         interline(y, 0, "b");

@@ -189,6 +189,9 @@ final class SentencesOfChanges extends Check {
         }
         x.cancel();
         refused(ARGUMENT, x, "no act is open", () -> x.strikeClause(1));
+        NotaryBook inner = loaded("book 4 0 2;act sale a (b c);insert 1 x;insert 1 y");
+        is("no interlined ones", change(inner, "strikeClause", () -> inner.strikeClause(2)), 2);
+        is("they stand", inner.act(1, 5), 3);
         NotaryBook full = loaded("book 20 0 2;act sale (" + words(240) + ")");
         for (int i : outside(0, 239)) {
             refused(ARGUMENT, full, "word " + i + " of a full book", () -> full.strikeClause(i));
@@ -284,6 +287,8 @@ final class SentencesOfChanges extends Check {
             x.strikeClause(1);
             is("the fee", change(x, "seal", () -> x.seal(2, 1)), base[kind] + 2);
             is("it is sealed", x.act(kind + 1, 1), 1);
+            is("its witnesses", x.act(kind + 1, 2), 2);
+            is("its marks", x.act(kind + 1, 3), 1);
         }
         is("CASH", x.count(9), 18);
         Doc.says(43, "or whyNotSeal() tells a reason");

@@ -290,6 +290,11 @@ final class SentencesOfTexts extends Check {
         hasError(HEAD + "abcdefghi", 1, 20);
         hasError(HEAD + "a abcdefghijklmnopqrstuvwxyz", 1, 22);
         hasError("bookbookb 4 0 2", 1, 0);
+        hasError("book 4 abcdefghi 2", 1, 7);
+        hasError(OPEN + ";strike abcdefghi", 1, OPEN.length() + 8);
+        hasError(OPEN + ";seal 0 abcdefghi", 1, OPEN.length() + 8);
+        hasError(OPEN + ";insert 0 123", 1, OPEN.length() + 10);
+        hasError("book 4 0 2;123", 1, 11);
         isBook(OPEN + ";insert 00 x");
         hasError(OPEN + ";insert 000 x", 1, OPEN.length() + 8);
         hasError(OPEN + ";seal 000 0", 1, OPEN.length() + 6);
@@ -355,6 +360,11 @@ final class SentencesOfTexts extends Check {
         endsWrong(OPEN + ";cancel;copy 1 2", 3);
         endsWrong(SEALED + ";lose 0;copy 1 1", 3);
         isBook(SEALED + ";copy 1 1;lose 0;copy 1 0");
+        String three = HEAD + words(12) + ";seal 0 0";
+        endsWrong(three + ";lose 1;copy 1 0", 3);
+        endsWrong(three + ";lose 1;copy 1 1", 3);
+        isBook(three + ";lose 1;copy 1 2");
+        endsWrong(three + ";lose 2;copy 1 2", 3);
         says("the L of \"lose\", \"find\" and \"sew\" if the leaf is not so");
         endsWrong(SEALED + ";lose 0;lose 0", 3);
         isBook(SEALED + ";lose 0;lose 1");
